@@ -72,6 +72,7 @@ public final class ActsTest {
         due("cracked", 0b01001, x.about(3));
         due("size 2 does not", 0, x.jar(1, 7));
         due("a cracked one does not look on", 1, x.jar(0, 6));
+        due("a cracked one keeps the haze that it had", 2, x.jar(0, 5));
         due("another one looks on", 2, x.jar(1, 6));
         due("a colonel does not", 1, x.jar(4, 6));
         due("nothing cracks twice", 0, x.shake());

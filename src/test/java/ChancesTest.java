@@ -70,6 +70,7 @@ public final class ChancesTest {
         due("x 11", BAD, x.papers(1, 11, false));
         CHECK.same("papers", before, x);
         between();
+        threePairs();
     }
 
     private static void between() {
@@ -88,6 +89,19 @@ public final class ChancesTest {
         Check.weeks(y, 2);
         papersOf(y, 1, 5, 0, 1);
         papersOf(y, 0, 5, 1, 1);
+    }
+
+    private static void threePairs() {
+        // Right, left, right, left, right, left; of the 64 ways to open some, 44, 12 and 1 leave so many pairs.
+        GreenJars x = Check.shelf("SJ05319J25319J45319J15309J35309J55309");
+        Check.shakes(x, 3);
+        Check.weeks(x, 2);
+        due("pairs", 3, x.about(6));
+        papersOf(x, 0, 5, 1, 1);
+        papersOf(x, 1, 5, 11, 16);
+        papersOf(x, 2, 5, 3, 16);
+        papersOf(x, 3, 5, 1, 64);
+        papersOf(x, 3, 1, 531441, 1000000);
     }
 
     private static void papersOf(GreenJars x, int m, int tenths, int above, int below) {

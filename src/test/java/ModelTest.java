@@ -11,9 +11,12 @@ public final class ModelTest {
     private final GreenJars x = new GreenJars();
     private final Model model = new Model();
     private final List<String> told = new ArrayList<>();
+    // In a calm run few jars are lost and many turn by themselves, so that pairs are not rare.
+    private final boolean calm;
 
     private ModelTest(long seed) {
         random = new Random(seed);
+        calm = random.nextBoolean();
     }
 
     public static void main(String[] args) {
@@ -73,8 +76,9 @@ public final class ModelTest {
         int jars = random.nextInt(4) == 0 ? random.nextInt(7) : 4 + random.nextInt(3);
         for (int k = 0; k < jars; k++) {
             text.append('J').append(places.remove(random.nextInt(places.size())));
-            text.append(random.nextInt(10)).append(random.nextInt(4)).append(random.nextInt(4));
-            text.append(random.nextBoolean() ? 9 : 1 + random.nextInt(9));
+            int kind = calm && random.nextBoolean() ? 1 : random.nextInt(4);
+            text.append(random.nextInt(10)).append(random.nextInt(4)).append(kind);
+            text.append(calm || random.nextBoolean() ? 9 : 1 + random.nextInt(9));
         }
         return text.toString();
     }
@@ -136,7 +140,7 @@ public final class ModelTest {
                 int stuff = near(0, 3);
                 return is("pour " + jar + " " + stuff, x.pour(jar, stuff), model.pour(jar, stuff));
             case 16:
-                return random.nextInt(3) != 0 || is("open " + jar, x.open(jar), model.open(jar));
+                return random.nextInt(calm ? 12 : 3) != 0 || is("open " + jar, x.open(jar), model.open(jar));
             case 17: case 18:
                 return is("undo", x.undo(), model.undo());
             default:

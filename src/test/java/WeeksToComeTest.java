@@ -178,6 +178,11 @@ public final class WeeksToComeTest {
         due("two pairs", 2, x.row(false));
         // Jar 0 can not stand leftmost; jar 2 or 3 must.
         due("the least way of two pairs", 3715, x.row(true));
+        GreenJars y = Check.shelf("SJ55319J45319J35319J25309J15309J05309");
+        Check.shakes(y, 3);
+        Check.weeks(y, 2);
+        due("three pairs", 3, y.row(false));
+        due("the least way of three pairs", 135246, y.row(true));
     }
 
     private static void judge() {
