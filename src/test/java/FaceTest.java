@@ -29,7 +29,9 @@ public final class FaceTest {
         fields();
         constructors();
         nested();
-        words(Files.readString(Path.of("src/main/java/GreenJars.java")));
+        String source = Files.readString(Path.of("src/main/java/GreenJars.java"));
+        words(source);
+        lengths(source);
         CHECK.end("FaceTest");
     }
 
@@ -105,8 +107,47 @@ public final class FaceTest {
                 due(field + " is final, if it is static", !fixed || Modifier.isFinal(field.getModifiers()));
                 fields += fixed ? 0 : 1;
             }
+            for (Method method : one.getDeclaredMethods()) {
+                due(method + " bears a name of the face", !isOfFace(method.getName()));
+                due(method + " has seven parameters at most", method.getParameterCount() <= 7);
+            }
             due(one + " has twenty fields at most", fields <= 20);
         }
+    }
+
+    private static boolean isOfFace(String name) {
+        for (String call : FACE) {
+            if (call.contains(" " + name + "(")) {
+                return true;
+            }
+        }
+        return false;
+    }
+
+    // Methods begin and end at the depth of four or eight blanks, and only theirs have a bracket there.
+    private static void lengths(String source) {
+        Pattern begin = Pattern.compile("^( {4}| {8})[a-zA-Z].*\\) \\{$");
+        Pattern end = Pattern.compile("^( {4}| {8})\\}$");
+        String[] lines = source.split("\n");
+        int methods = 0;
+        int from = 0;
+        boolean inside = false;
+        for (int k = 0; k < lines.length; k++) {
+            boolean isWord = lines[k].trim().matches("(if|for|while|switch) .*");
+            if (!inside && !isWord && begin.matcher(lines[k]).find()) {
+                from = k;
+                inside = true;
+                methods++;
+            } else if (inside && end.matcher(lines[k]).find() && blanks(lines[k]) == blanks(lines[from])) {
+                due(lines[from].trim() + " has sixty lines at most", k - from + 1 <= 60);
+                inside = false;
+            }
+        }
+        due("methods were found: " + methods, methods > FACE.length && !inside);
+    }
+
+    private static int blanks(String line) {
+        return line.length() - line.stripLeading().length();
     }
 
     private static void words(String source) {
